@@ -69,6 +69,8 @@ public final class ArticleTest {
         StandTable z = Check.table("article a takes 1;article b takes 1 a;article c takes 1;article d takes 1 c;"
             + "article e takes 1 d;", null);
         Check.due(z, "keystone(), the third", z.keystone(), 2, 0);
+        StandTable w = Check.table("article a takes 1;article b takes 1;", null);
+        Check.due(w, "keystone(), none leans", w.keystone(), 0, 0);
     }
 
     private static void orders() {

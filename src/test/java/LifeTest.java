@@ -229,6 +229,12 @@ public final class LifeTest {
         lived(x, "behind undo() and new SESSIONS", 1, 3, 2, 1, 0);
         x.live(0);
         lived(x, "behind live()", 0, 0, 0, 0, 0);
+        Check.sessions(x, "loop 99;rise a;day 1;rise a;agree z;end;");
+        x.live(0);
+        lived(x, "behind one that is cut off", 222, 75, 2, 0, 1);
+        Check.sessions(x, "turn 1;");
+        x.live(0);
+        lived(x, "behind the next", 0, 0, 0, 0, 0);
     }
 
     private static void mean(StandTable x, int seed, int many, long top, long bottom) {
@@ -353,6 +359,13 @@ public final class LifeTest {
         Check.due(x, "sessions with its names", Check.sessions(x, "rise b;agree z;"), 2, 0);
         Check.refused(x, "sessions with other names", Check.sessions(x, "rise p;"), 9);
         Check.due("fault(0)", x.fault(0), 3);
+        // whom a WISH is of
+        StandTable w = Check.table("places 4;party a at 0;party b at 2;party c at 1;wants a beside c worth 3;", null);
+        w.mark();
+        Check.committee(w, "places 5;party d;");
+        w.undo();
+        Check.due("wish(0,2)", w.wish(0, 2), 2);
+        Check.due("worth(0)", w.worth(0), 3);
         // a MARK without SESSIONS has none
         StandTable y = Check.table(STAFF, null);
         y.mark();

@@ -14,6 +14,7 @@ public final class SeatingTest {
         shy();
         threeForOne();
         bestIsTheFirst();
+        theLastOfAll();
         classes();
         quarrels();
         fish();
@@ -178,6 +179,37 @@ public final class SeatingTest {
         Check.due("allWorth()", x.allWorth(), 4);
     }
 
+    /** What the last SEATING alone has, each call on an object of its own. */
+    private static void theLastOfAll() {
+        String last = "places 3;corner 2;party a least 1;wants a corner worth 1;";
+        Check.due("good()", Check.table(last, null).good(), 1);
+        Check.due("classes()", Check.table(last, null).classes(), 1);
+        Check.due("goodAt(0)", Check.table(last, null).goodAt(0), 2);
+        Check.due("best()", Check.table(last, null).best(), 1);
+        Check.due("bestAt(0)", Check.table(last, null).bestAt(0), 2);
+        Check.due("mostSign()", Check.table(last, null).mostSign(), 1);
+        Check.due("quarrel()", Check.table(last, null).quarrel(), -1);
+        Check.due("pleased(1)", Check.table(last, null).pleased(1), 1);
+        Check.due("mostFor(0)", Check.table(last, null).mostFor(0), 1);
+        Check.due("signsIn(0)", Check.table(last, null).signsIn(0), 1);
+        Check.due("leastFish()", Check.table(last, null).leastFish(), 0);
+        StandTable x = Check.table(last, null);
+        Check.due("seatBest()", x.seatBest(), 1);
+        Check.due("placeOf(0)", x.placeOf(0), 2);
+        StandTable y = Check.table("places 6;corner 1;corner 4;corner 5;party a least 1;party b least 2;"
+            + "party c least 1;party d least 1;party e least 2;wants a corner worth 1;wants b corner worth 1;"
+            + "wants b beside a worth 1;wants c beside b worth 1;wants d beside c worth 1;"
+            + "wants e beside d worth 1;wants e corner worth 1;", null);
+        Check.due("good() of 720", y.good(), 1);
+        Check.due("classes() of 720", y.classes(), 1);
+        for (int p = 0; p < 5; p++) {
+            Check.due("goodAt(" + p + ") of 720", y.goodAt(p), 5 - p);
+            Check.due("bestAt(" + p + ") of 720", y.bestAt(p), 5 - p);
+        }
+        Check.due("best() of 720", y.best(), 7);
+        Check.due("mostSign() of 720", y.mostSign(), 5);
+    }
+
     private static void classes() {
         String[] texts = {"places 6;party a;", "places 6;party a;party b;", "places 6;party a;party b;party c;",
             "places 6;party a;party b;party c;party d;party e;", "places 5;party a;party b;",
@@ -200,6 +232,15 @@ public final class SeatingTest {
         Check.due("classes(), not beside", x.classes(), 2);
         x.insist(0, 2);
         Check.due("classes() of none", x.classes(), 0);
+        // two GOOD ones, each the other's mirror image and no turning of it
+        StandTable y = Check.table("places 6;corner 0;corner 5;party a least 1;party b least 2;party c least 1;"
+            + "wants a corner worth 1;wants b beside a worth 2;shuns b corner worth 1;wants c facing a worth 1;",
+            null);
+        Check.due("good() of two mirrored", y.good(), 2);
+        Check.due("classes() of two mirrored", y.classes(), 1);
+        y.carve(3, true);
+        Check.due("good() of four", y.good(), 4);
+        Check.due("classes() of four, ALIKE all", y.classes(), 1);
     }
 
     private static void quarrels() {
@@ -327,6 +368,16 @@ public final class SeatingTest {
         game(z, 0, 1, 1, 2, 1);
         game(z, 0, 1, 2, 2, 1);
         game(z, 1, 2, 1, 3, 0);
+        // the other follows wherever it goes, so it stays
+        String follow = "places 4;corner 0;party a at 0;party b at 1;wants a corner worth 5;"
+            + "wants b facing a worth 9;";
+        Check.due("moveOf(0,1,2) on a new object", Check.table(follow, null).moveOf(0, 1, 2), -1);
+        Check.due("game(0,1,2) on a new object", Check.table(follow, null).game(0, 1, 2), -4);
+        StandTable v = Check.table(follow, null);
+        game(v, 0, 1, 0, 5, -1);
+        game(v, 0, 1, 1, 5, -1);
+        game(v, 0, 1, 2, -4, -1);
+        game(v, 0, 1, 3, 0, 1);
         // the other takes its own WORTH back: it plays for the least
         StandTable w = Check.table("places 4;corner 3;party a at 0;party b at 1;wants a facing b worth 2;"
             + "wants b corner worth 3;", null);

@@ -12,6 +12,8 @@ public final class TextTest {
         tape();
         committees();
         aNewOneTakesThePlace();
+        aNewOneHasNothingOfOldOnes();
+        allThatThereCanBe();
         faultOfTheLatest();
         committeesThatCanBe();
         committeeFaults();
@@ -67,6 +69,17 @@ public final class TextTest {
         Check.due("feed behind a FAULT", x.feed(0, 0, 0, 0, 0), 20);
         Check.due(x, "committee(0)", x.committee(0), 0, 0);
         Check.due("told(0) of none", x.told(0), 0);
+        // a TOKEN ends with the text, whatever stands behind it on the tape
+        Check.feed(x, "places 35;");
+        Check.refused(x, "a NUMBER cut off", x.committee(8), 9);
+        Check.due("fault(0) of a NUMBER cut off", x.fault(0), 2);
+        Check.due("fault(1) of a NUMBER cut off", x.fault(1), 8);
+        Check.feed(x, "places 3;partyx p;");
+        Check.refused(x, "a WORD cut off", x.committee(14), 9);
+        Check.due("fault(0) of a WORD cut off", x.fault(0), 2);
+        Check.due("fault(1) of a WORD cut off", x.fault(1), 14);
+        Check.feed(x, "places 3;    xxx");
+        Check.due(x, "blanks cut off", x.committee(11), 0, 0);
         Check.due(x, "committee with WISHES", Check.committee(x, PQ
             + "wants p corner worth 1;shuns q beside p worth 2;wants p facing q worth 3;"), 3, 0);
     }
@@ -90,6 +103,80 @@ public final class TextTest {
         Check.refused(x, "live without SESSIONS", x.live(0), 6);
         Check.due(x, "MARKS stay", x.undo(), 0, 0);
         Check.due("told(8) of the MARK", x.told(8), 1);
+    }
+
+    private static String crowd() {
+        StringBuilder s = new StringBuilder("places 6;corner 0;corner 5;");
+        for (int i = 0; i < 5; i++) {
+            s.append("party ").append((char) ('a' + i)).append(" least ").append(i + 1).append(" at ").append(i);
+            s.append(';');
+        }
+        s.append(times("wants a beside b worth 1;", 9)).append("wants e corner worth 5;");
+        s.append(times("wants b beside a worth 2;", 10));
+        for (int i = 0; i < 8; i++) {
+            s.append("article ").append((char) ('p' + i)).append(" takes 2 odds 3 ");
+            s.append(i == 0 ? "" : (char) ('p' + i - 1)).append(';');
+        }
+        return s.toString();
+    }
+
+    private static void allThatThereCanBe() {
+        StandTable x = Check.table(crowd(), null);
+        int[] told = {6, 5, 20, 8, 0, 33, 31, 3, 0, 1};
+        for (int what = 0; what <= 9; what++) {
+            Check.due(x, "all: told(" + what + ")", x.told(what), told[what], 0);
+        }
+        Check.due("all: worth(0)", x.worth(0), 9);
+        Check.due("all: worth(1)", x.worth(1), 20);
+        Check.due("all: allWorth()", x.allWorth(), 29);
+        Check.due("all: fish()", x.fish(), 12);
+        Check.due("all: dearest(1)", x.dearest(1), 10);
+        Check.due("all: dearest(0)", x.dearest(0), 0);
+        Check.refused(x, "all: bestSwap()", x.bestSwap(), 6);
+        x.sit(4, 5);
+        Check.due("all: told(7)", x.told(7), 19);
+        Check.due("all: day(99)", x.day(99), 8);
+        Check.due("all: told(9)", x.told(9), 0);
+        Check.due("all: withdraw(1)", x.withdraw(1), 7);
+        Check.due("all: falls(0)", x.falls(0), 255);
+        Check.due("all: leans(7)", x.leans(7), 127);
+        Check.due("all: chain(7)", x.chain(7), 14);
+    }
+
+    /** Two objects hold the COMMITTEE in turn, so the third one comes where the first was. */
+    private static void aNewOneHasNothingOfOldOnes() {
+        StandTable x = Check.table(crowd(), "loop 3;any;end;");
+        x.day(5);
+        for (int i = 0; i < 3; i++) {
+            Check.due(x, "none", Check.committee(x, ""), 0, 0);
+            for (int what = 0; what <= 9; what++) {
+                Check.due(x, "none: told(" + what + ")", x.told(what), 0, 0);
+            }
+        }
+        Check.committee(x, crowd());
+        x.day(9);
+        Check.refused(x, "a FAULT at the end", Check.committee(x, crowd() + "!"), 9);
+        Check.due(x, "three", Check.committee(x, "places 6;party x;party y at 2;article p takes 3;"), 0, 0);
+        Check.refused(x, "a FAULT at the end", Check.committee(x, crowd() + "!"), 9);
+        int[] told = {6, 2, 0, 1, 0, 0, 2, 3, 0, 1};
+        for (int what = 0; what <= 9; what++) {
+            Check.due(x, "three: told(" + what + ")", x.told(what), told[what], 0);
+        }
+        Check.due("three: least(0)", x.least(0), 0);
+        Check.due("three: article(0,1)", x.article(0, 1), 16);
+        Check.due("three: article(0,2)", x.article(0, 2), 0);
+        Check.due("three: article(0,3)", x.article(0, 3), 0);
+        Check.refused(x, "three: who(1)", x.who(1), 6);
+        Check.due("three: seatings()", x.seatings(), 30);
+        Check.due("three: best()", x.best(), 0);
+        Check.due("three: worth(0)", x.worth(0), 0);
+        Check.due("three: allWorth()", x.allWorth(), 0);
+        Check.refused(x, "three: dearest(0)", x.dearest(0), 6);
+        // SESSIONS with a FAULT in the midst of a loop leave nothing open
+        Check.refused(x, "sessions", Check.sessions(x, "loop 2;loop 2;any;"), 9);
+        Check.due(x, "sessions", Check.sessions(x, "loop 2;loop 2;loop 2;end;end;end;"), 3, 0);
+        Check.due(x, "sessions", Check.sessions(x, "any;"), 1, 0);
+        Check.due(x, "live(0)", x.live(0), 1, 0);
     }
 
     private static void faultOfTheLatest() {

@@ -189,5 +189,7 @@ public final class ToldTest {
         Check.refused(x, "dearest(0), stands", x.dearest(0), 6);
         x.sit(1, 4);
         Check.due(x, "dearest(1), a corner", x.dearest(1), 3, 0);
+        x.value(3, 1);
+        Check.due(x, "dearest(1), worth 1", x.dearest(1), 3, 0);
     }
 }

@@ -92,9 +92,11 @@ public final class TrayTest {
         Check.due(x, "read(0,59)", x.read(0, 59), 7, 0);
         Check.due(x, "tray(0,1,60) anew", x.tray(0, 1, 60), true, 0);
         Check.due(x, "read(0,59) of a new row", x.read(0, 59), 0, 0);
+        x.write(0, 0, 5);
         x.write(0, 2, 5);
         x.tray(0, 1, 2);
         x.tray(0, 1, 3);
+        Check.due(x, "read(0,0) of a row made anew", x.read(0, 0), 0, 0);
         Check.due(x, "read(0,2) of a longer row", x.read(0, 2), 0, 0);
     }
 
