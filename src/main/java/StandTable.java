@@ -86,9 +86,7 @@ public final class StandTable {
     private long top;
     private long bottom;
     private final Tray[] trays = new Tray[TRAYS];
-    private final byte[] tape = new byte[TAPE_MOST];
-    private int taped;
-    private final Reader reader = new Reader(tape);
+    private final Reader reader = new Reader();
     private int faultTold;
     private int faultPlace;
     private Committee now = new Committee();
@@ -186,22 +184,21 @@ public final class StandTable {
     // ---- texts
 
     public int feed(int a, int b, int c, int d, int e) {
-        if (taped > TAPE_MOST - FEED_BYTES) {
+        if (reader.taped > TAPE_MOST - FEED_BYTES) {
             return NONE;
         }
-        feedInt(a);
-        feedInt(b);
-        feedInt(c);
-        feedInt(d);
-        feedInt(e);
-        return taped;
+        reader.add(a);
+        reader.add(b);
+        reader.add(c);
+        reader.add(d);
+        reader.add(e);
+        return reader.taped;
     }
 
     public int committee(int n) {
-        if (n < 0 || n > taped) {
+        if (n < 0 || n > reader.taped) {
             return refuse(BAD_NUMBER);
         }
-        taped = 0;
         reader.open(n);
         CommitteeText.readAll(reader, spare);
         if (!keepFault()) {
@@ -214,10 +211,9 @@ public final class StandTable {
     }
 
     public int sessions(int n) {
-        if (n < 0 || n > taped || n > SESSIONS_TEXT_MOST) {
+        if (n < 0 || n > reader.taped || n > SESSIONS_TEXT_MOST) {
             return refuse(BAD_NUMBER);
         }
-        taped = 0;
         reader.open(n);
         SessionText.readAll(reader, now, spareSteps);
         if (!keepFault()) {
@@ -822,13 +818,6 @@ public final class StandTable {
 
     private boolean areTwo(int a, int b) {
         return now.isParty(a) && now.isParty(b) && a != b;
-    }
-
-    private void feedInt(int word) {
-        for (int shift = 24; shift >= 0 && taped < TAPE_MOST; shift -= 8) {
-            tape[taped] = (byte) (word >> shift);
-            taped++;
-        }
     }
 
     /** Keeps what fault() tells of the text just read; whether it is without one. */
@@ -1833,7 +1822,7 @@ public final class StandTable {
         }
     }
 
-    /** The TOKENS of a text, one at a time, and the first FAULT along it. */
+    /** The tape, the TOKENS of the text on it, one at a time, and the first FAULT along it. */
     private static final class Reader {
         private static final int THE_END = 0;
         private static final int WORD = 1;
@@ -1845,7 +1834,8 @@ public final class StandTable {
         private static final int LETTER_BITS = 5;
 
         private final long[] keywords = new long[KEYWORD_COUNT];
-        private final byte[] text;
+        private final byte[] text = new byte[TAPE_MOST];
+        int taped;
         private int length;
         private int place;
         private int kind;
@@ -1860,8 +1850,7 @@ public final class StandTable {
         int fault;
         int faultPlace;
 
-        Reader(byte[] tape) {
-            text = tape;
+        Reader() {
             int count = 0;
             long code = 0;
             for (int i = 0; i < KEYWORDS.length() && count < KEYWORD_COUNT; i++) {
@@ -1880,8 +1869,18 @@ public final class StandTable {
             return (code << LETTER_BITS) + letter - 'a' + 1;
         }
 
+        /** The four bytes of a number, the highest first. */
+        void add(int word) {
+            for (int shift = 24; shift >= 0 && taped < TAPE_MOST; shift -= 8) {
+                text[taped] = (byte) (word >> shift);
+                taped++;
+            }
+        }
+
+        /** Begins with the first bytes of the tape, which is empty then. */
         void open(int newLength) {
-            length = Math.min(newLength, text.length);
+            length = Math.min(newLength, taped);
+            taped = 0;
             place = 0;
             fault = 0;
             faultPlace = NONE;
