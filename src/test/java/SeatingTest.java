@@ -368,6 +368,9 @@ public final class SeatingTest {
         game(z, 0, 1, 1, 2, 1);
         game(z, 0, 1, 2, 2, 1);
         game(z, 1, 2, 1, 3, 0);
+        String apart = "places 3;corner 0;party a at 1;party b at 2;wants a corner worth 5;";
+        Check.due("game(0,1,0) on a new object", Check.table(apart, null).game(0, 1, 0), 0);
+        Check.due("moveOf(0,1,1) on a new object", Check.table(apart, null).moveOf(0, 1, 1), 0);
         // the other follows wherever it goes, so it stays
         String follow = "places 4;corner 0;party a at 0;party b at 1;wants a corner worth 5;"
             + "wants b facing a worth 9;";

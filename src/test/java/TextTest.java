@@ -154,6 +154,10 @@ public final class TextTest {
             }
         }
         Check.committee(x, crowd());
+        for (int i = 0; i < 8; i++) {
+            Check.due("crowd anew: article(" + i + ",3)", x.article(i, 3), 0);
+        }
+        Check.due("crowd anew: soonest(7)", x.soonest(7), 16);
         x.day(9);
         Check.refused(x, "a FAULT at the end", Check.committee(x, crowd() + "!"), 9);
         Check.due(x, "three", Check.committee(x, "places 6;party x;party y at 2;article p takes 3;"), 0, 0);
