@@ -108,10 +108,10 @@ public final class StandTable {
         bottom = 1;
         faultTold = NONE;
         faultPlace = NONE;
-        for (int i = 0; i < TRAYS; i++) {
+        for (int i = 0; i < trays.length; i++) {
             trays[i] = new Tray();
         }
-        for (int i = 0; i < MARKS_MOST; i++) {
+        for (int i = 0; i < kept.length; i++) {
             kept[i] = new Committee();
         }
     }
@@ -131,43 +131,40 @@ public final class StandTable {
     // ---- TRAYS
 
     public boolean tray(int tray, int sort, int many) {
-        if (!isTray(tray) || !within(sort, 0, SORTS - 1) || !within(many, 0, TRAY_MOST)) {
+        Tray made = trayAt(tray);
+        if (made == null || !within(sort, 0, SORTS - 1) || !within(many, 0, TRAY_MOST)) {
             return deny(BAD_NUMBER);
         }
-        trays[tray].make(sort, many);
+        made.make(sort, many);
         return grant();
     }
 
     public boolean write(int tray, int place, long v) {
-        int why = whyNoTray(tray);
-        if (why != FINE) {
+        Tray goal = trayAt(tray);
+        int why = whyNoNumbers(goal, place, 1);
+        if (goal == null || why != FINE) {
             return deny(why);
         }
-        if (!trays[tray].spans(place, 1)) {
-            return deny(TRAY_SHORT);
-        }
-        trays[tray].put(place, v);
+        goal.put(place, v);
         return grant();
     }
 
     public long read(int tray, int place) {
-        int why = whyNoTray(tray);
-        if (why != FINE) {
+        Tray source = trayAt(tray);
+        int why = whyNoNumbers(source, place, 1);
+        if (source == null || why != FINE) {
             return refuse(why);
         }
-        if (!trays[tray].spans(place, 1)) {
-            return refuse(TRAY_SHORT);
-        }
         status = FINE;
-        return trays[tray].row[place];
+        return source.numberAt(place);
     }
 
     public boolean pour(int from, int place, int to, int at, int many) {
-        if (!isTray(from) || !isTray(to) || place < 0 || at < 0 || many < 0) {
+        Tray source = trayAt(from);
+        Tray goal = trayAt(to);
+        if (source == null || goal == null || place < 0 || at < 0 || many < 0) {
             return deny(BAD_NUMBER);
         }
-        Tray source = trays[from];
-        Tray goal = trays[to];
         if (source.isMissing() || goal.isMissing()) {
             return deny(TRAY_MISSING);
         }
@@ -527,7 +524,7 @@ public final class StandTable {
             return refuse(NONE_SUCH);
         }
         int most = survey.findBest(now);
-        System.arraycopy(survey.chosen, 0, now.seats, 0, now.parties);
+        System.arraycopy(survey.chosen, 0, now.seats, 0, PARTIES_MOST);
         return answer(most);
     }
 
@@ -669,25 +666,28 @@ public final class StandTable {
     }
 
     public int copySeats(int tray) {
-        int why = whyNoSeatsIn(tray);
-        if (why != FINE) {
+        Tray goal = trayAt(tray);
+        int why = whyNoNumbers(goal, 0, now.parties);
+        if (goal == null || why != FINE) {
             return refuse(why);
         }
-        for (int i = 0; i < now.parties; i++) {
-            trays[tray].put(i, now.seats[i]);
+        for (int i = 0; i < now.parties && i < now.seats.length; i++) {
+            goal.put(i, now.seats[i]);
         }
         return answer(now.parties);
     }
 
     public int seatBy(int tray) {
-        int why = whyNoSeatsIn(tray);
-        if (why != FINE) {
+        Tray source = trayAt(tray);
+        int why = whyNoNumbers(source, 0, now.parties);
+        if (source == null || why != FINE) {
             return refuse(why);
         }
-        if (!layTrialBy(trays[tray])) {
+        layTrial();
+        if (!changeTrialBy(source)) {
             return refuse(BAD_CONTENT);
         }
-        System.arraycopy(trial, 0, now.seats, 0, now.parties);
+        System.arraycopy(trial, 0, now.seats, 0, PARTIES_MOST);
         return answer(now.signersOf(now.seats));
     }
 
@@ -707,7 +707,7 @@ public final class StandTable {
     }
 
     public int lived(int what) {
-        if (!within(what, 0, LIVED_FIGURES - 1)) {
+        if (what < 0 || what >= figures.length) {
             return refuse(BAD_NUMBER);
         }
         return hasLived ? answer(figures[what]) : refuse(NONE_SUCH);
@@ -734,20 +734,22 @@ public final class StandTable {
     // ---- MARKS
 
     public int mark() {
-        if (marks >= MARKS_MOST) {
+        Committee free = keptAt(marks);
+        if (free == null) {
             return refuse(ONE_TOO_MANY);
         }
-        kept[marks].takeFrom(now);
+        free.takeFrom(now);
         marks++;
         return answer(marks);
     }
 
     public int undo() {
-        if (marks <= 0) {
+        Committee latest = keptAt(marks - 1);
+        if (latest == null) {
             return refuse(NONE_SUCH);
         }
         marks--;
-        now.takeFrom(kept[marks]);
+        now.takeFrom(latest);
         return answer(marks);
     }
 
@@ -789,31 +791,32 @@ public final class StandTable {
         return (set >> member & 1) == 1;
     }
 
-    private static boolean isTray(int tray) {
-        return within(tray, 0, TRAYS - 1);
+    /** null if there is no such one. */
+    private Tray trayAt(int tray) {
+        return tray >= 0 && tray < trays.length ? trays[tray] : null;
     }
 
-    private int whyNoTray(int tray) {
-        if (!isTray(tray)) {
+    /** null if there is no such one. */
+    private Committee keptAt(int mark) {
+        return mark >= 0 && mark < kept.length ? kept[mark] : null;
+    }
+
+    /** Why a TRAY has not so many numbers from a place on. */
+    private static int whyNoNumbers(Tray tray, int place, int many) {
+        if (tray == null) {
             return BAD_NUMBER;
         }
-        return trays[tray].isMissing() ? TRAY_MISSING : FINE;
-    }
-
-    private int whyNoSeatsIn(int tray) {
-        int why = whyNoTray(tray);
-        if (why == FINE && !trays[tray].spans(0, now.parties)) {
-            return TRAY_SHORT;
+        if (tray.isMissing()) {
+            return TRAY_MISSING;
         }
-        return why;
+        return tray.spans(place, many) ? FINE : TRAY_SHORT;
     }
 
     private int whyNoGame(int party, int other, int turns, int fewest) {
         if (!areTwo(party, other) || !within(turns, fewest, GAME_TURNS_MOST)) {
             return BAD_NUMBER;
         }
-        boolean bothSit = now.seats[party] != NONE && now.seats[other] != NONE;
-        return bothSit ? FINE : CANNOT_BE;
+        return now.sits(party) && now.sits(other) ? FINE : CANNOT_BE;
     }
 
     private boolean areTwo(int a, int b) {
@@ -831,20 +834,20 @@ public final class StandTable {
         System.arraycopy(now.seats, 0, trial, 0, PARTIES_MOST);
     }
 
-    private boolean layTrialBy(Tray tray) {
+    /** Whether the numbers of a TRAY can be where all PARTIES sit. */
+    private boolean changeTrialBy(Tray tray) {
         int taken = 0;
-        for (int i = 0; i < now.parties; i++) {
-            long place = tray.row[i];
-            if (place < NONE || place >= now.places) {
+        for (int i = 0; i < now.parties && i < trial.length; i++) {
+            long number = tray.numberAt(i);
+            if (number < NONE || number >= now.places) {
                 return false;
             }
-            trial[i] = (int) place;
-            if (trial[i] != NONE) {
-                if (holds(taken, trial[i])) {
-                    return false;
-                }
-                taken |= 1 << trial[i];
+            int place = (int) number;
+            if (place != NONE && holds(taken, place)) {
+                return false;
             }
+            taken |= place == NONE ? 0 : 1 << place;
+            trial[i] = place;
         }
         return true;
     }
@@ -881,14 +884,18 @@ public final class StandTable {
         void make(int newSort, int newMany) {
             sort = newSort;
             many = newMany;
-            for (int i = 0; i < TRAY_MOST; i++) {
+            for (int i = 0; i < row.length; i++) {
                 row[i] = 0;
             }
         }
 
         /** Subtracts where a sum of the two numbers could run over. */
         boolean spans(int place, int count) {
-            return place >= 0 && count >= 0 && place <= many && count <= many - place;
+            return place >= 0 && count >= 0 && many <= row.length && place <= many && count <= many - place;
+        }
+
+        long numberAt(int place) {
+            return spans(place, 1) ? row[place] : 0;
         }
 
         void put(int place, long number) {
@@ -975,15 +982,15 @@ public final class StandTable {
         }
 
         boolean isParty(int party) {
-            return party >= 0 && party < parties;
+            return party >= 0 && party < parties && party < PARTIES_MOST;
         }
 
         boolean isWish(int wish) {
-            return wish >= 0 && wish < wishes;
+            return wish >= 0 && wish < wishes && wish < WISHES_MOST;
         }
 
         boolean isArticle(int article) {
-            return article >= 0 && article < articles;
+            return article >= 0 && article < articles && article < ARTICLES_MOST;
         }
 
         boolean isCorner(int place) {
@@ -999,7 +1006,7 @@ public final class StandTable {
         }
 
         int partyNamed(long name) {
-            for (int i = 0; i < parties; i++) {
+            for (int i = 0; i < parties && i < partyNames.length; i++) {
                 if (partyNames[i] == name) {
                     return i;
                 }
@@ -1008,7 +1015,7 @@ public final class StandTable {
         }
 
         int articleNamed(long name) {
-            for (int i = 0; i < articles; i++) {
+            for (int i = 0; i < articles && i < articleNames.length; i++) {
                 if (articleNames[i] == name) {
                     return i;
                 }
@@ -1019,7 +1026,7 @@ public final class StandTable {
         // ---- who sits where; a row is a PLACE, or NONE, PARTY by PARTY
 
         int sitterAt(int place, int[] row) {
-            for (int i = 0; i < parties; i++) {
+            for (int i = 0; i < parties && i < row.length; i++) {
                 if (row[i] == place) {
                     return i;
                 }
@@ -1027,9 +1034,18 @@ public final class StandTable {
             return NONE;
         }
 
+        /** Who is no PARTY stands. */
+        static int seatIn(int[] row, int party) {
+            return party >= 0 && party < row.length ? row[party] : NONE;
+        }
+
+        boolean sits(int party) {
+            return isParty(party) && seats[party] != NONE;
+        }
+
         int sittersOf(int[] row) {
             int set = 0;
-            for (int i = 0; i < parties; i++) {
+            for (int i = 0; i < parties && i < row.length; i++) {
                 if (row[i] != NONE) {
                     set |= 1 << i;
                 }
@@ -1051,7 +1067,7 @@ public final class StandTable {
 
         boolean seatOne(int party, int place) {
             int sitter = sitterAt(place, seats);
-            if (sitter != NONE && sitter != party) {
+            if (!isParty(party) || !isPlace(place) || sitter != NONE && sitter != party) {
                 return false;
             }
             seats[party] = place;
@@ -1059,23 +1075,26 @@ public final class StandTable {
         }
 
         boolean raiseOne(int party) {
-            boolean sat = seats[party] != NONE;
+            if (!isParty(party) || seats[party] == NONE) {
+                return false;
+            }
             seats[party] = NONE;
-            return sat;
+            return true;
         }
 
         boolean swapTwo(int a, int b, int[] row) {
-            if (a == b || row[a] == NONE && row[b] == NONE) {
+            int first = seatIn(row, a);
+            int second = seatIn(row, b);
+            if (a == b || first == NONE && second == NONE || !isParty(a) || !isParty(b)) {
                 return false;
             }
-            int first = row[a];
-            row[a] = row[b];
+            row[a] = second;
             row[b] = first;
             return true;
         }
 
         void turnAll(int n, int[] row) {
-            for (int i = 0; i < parties; i++) {
+            for (int i = 0; i < parties && i < row.length; i++) {
                 if (places > 0 && row[i] != NONE) {
                     row[i] = (row[i] + n) % places;
                 }
@@ -1085,20 +1104,20 @@ public final class StandTable {
         // ---- what a row is worth
 
         boolean isMet(int wish, int[] row) {
-            int place = row[whose[wish]];
+            int place = isWish(wish) ? seatIn(row, whose[wish]) : NONE;
             if (place == NONE) {
                 return false;
             }
             if (kinds[wish] == KIND_CORNER) {
                 return holds(corners, place);
             }
-            int other = row[whom[wish]];
+            int other = seatIn(row, whom[wish]);
             return kinds[wish] == KIND_BESIDE ? nextTo(place, other) : opposite(place, other);
         }
 
         int worthTo(int party, int[] row) {
             int sum = 0;
-            for (int k = 0; k < wishes; k++) {
+            for (int k = 0; k < wishes && k < WISHES_MOST; k++) {
                 if (whose[k] == party && isMet(k, row)) {
                     sum += worths[k];
                 }
@@ -1108,7 +1127,7 @@ public final class StandTable {
 
         int worthOfAll(int[] row) {
             int sum = 0;
-            for (int k = 0; k < wishes; k++) {
+            for (int k = 0; k < wishes && k < WISHES_MOST; k++) {
                 if (isMet(k, row)) {
                     sum += worths[k];
                 }
@@ -1117,13 +1136,13 @@ public final class StandTable {
         }
 
         boolean doesSign(int party, int[] row) {
-            return worthTo(party, row) >= leasts[party];
+            return isParty(party) && worthTo(party, row) >= leasts[party];
         }
 
         int signersOf(int[] row) {
             weigh(row);
             int set = 0;
-            for (int i = 0; i < parties; i++) {
+            for (int i = 0; i < parties && i < PARTIES_MOST; i++) {
                 if (scales[i] >= leasts[i]) {
                     set |= 1 << i;
                 }
@@ -1134,7 +1153,7 @@ public final class StandTable {
         int lackOf(int[] row) {
             weigh(row);
             int sum = 0;
-            for (int i = 0; i < parties; i++) {
+            for (int i = 0; i < parties && i < PARTIES_MOST; i++) {
                 sum += Math.max(0, leasts[i] - scales[i]);
             }
             return sum;
@@ -1142,12 +1161,13 @@ public final class StandTable {
 
         /** One way through the WISHES for all PARTIES: the surveys ask it 720 times a call. */
         private void weigh(int[] row) {
-            for (int i = 0; i < parties; i++) {
+            for (int i = 0; i < scales.length; i++) {
                 scales[i] = 0;
             }
-            for (int k = 0; k < wishes; k++) {
-                if (isMet(k, row)) {
-                    scales[whose[k]] += worths[k];
+            for (int k = 0; k < wishes && k < WISHES_MOST; k++) {
+                int party = whose[k];
+                if (isMet(k, row) && isParty(party)) {
+                    scales[party] += worths[k];
                 }
             }
         }
@@ -1155,7 +1175,7 @@ public final class StandTable {
         int dearestWish(int party) {
             int found = NONE;
             int most = 0;
-            for (int k = 0; k < wishes; k++) {
+            for (int k = 0; k < wishes && k < WISHES_MOST; k++) {
                 if (whose[k] == party && worths[k] > most && isMet(k, seats)) {
                     found = k;
                     most = worths[k];
@@ -1168,7 +1188,8 @@ public final class StandTable {
 
         /** No ARTICLE leans on itself: of both sets together its leans alone are AGREED. */
         boolean isReady(int article) {
-            return (agreed & (1 << article | leansOn[article])) == leansOn[article];
+            return article >= 0 && article < leansOn.length
+                    && (agreed & (1 << article | leansOn[article])) == leansOn[article];
         }
 
         int readyArticles() {
@@ -1183,6 +1204,9 @@ public final class StandTable {
 
         /** What an ARTICLE leans on stands ahead of it, so one way down finds all. */
         int allLeansOf(int article) {
+            if (!isArticle(article)) {
+                return 0;
+            }
             int set = leansOn[article];
             for (int i = article - 1; i >= 0; i--) {
                 if (holds(set, i)) {
@@ -1193,9 +1217,9 @@ public final class StandTable {
         }
 
         int allFallsOf(int article) {
-            int set = 1 << article;
-            for (int i = article + 1; i < articles; i++) {
-                if ((leansOn[i] & set) != 0) {
+            int set = 0;
+            for (int i = 0; i < articles && i < leansOn.length; i++) {
+                if (i == article || (leansOn[i] & set) != 0) {
                     set |= 1 << i;
                 }
             }
@@ -1216,7 +1240,7 @@ public final class StandTable {
                 return 0;
             }
             int falling = allFallsOf(article) & agreed;
-            for (int i = 0; i < articles; i++) {
+            for (int i = 0; i < articles && i < worked.length; i++) {
                 if (holds(falling, i)) {
                     worked[i] = 0;
                 }
@@ -1246,9 +1270,11 @@ public final class StandTable {
         }
 
         private void workAt(int article) {
-            worked[article]++;
-            if (worked[article] >= takes[article]) {
-                agreed |= 1 << article;
+            if (article >= 0 && article < ARTICLES_MOST) {
+                worked[article]++;
+                if (worked[article] >= takes[article]) {
+                    agreed |= 1 << article;
+                }
             }
         }
     }
@@ -1279,7 +1305,7 @@ public final class StandTable {
 
         private void fillFrom(Committee c, int party, int taken) {
             int used = taken;
-            for (int i = party; i < c.parties; i++) {
+            for (int i = Math.max(0, party); i < c.parties && i < row.length; i++) {
                 row[i] = freeFrom(0, used);
                 used |= 1 << row[i];
             }
@@ -1296,10 +1322,10 @@ public final class StandTable {
         /** The SEATING behind that in the row: the last PARTY that can go on goes on. */
         private void goOn(Committee c) {
             int used = 0;
-            for (int i = 0; i < c.parties; i++) {
+            for (int i = 0; i < c.parties && i < row.length; i++) {
                 used |= 1 << row[i];
             }
-            for (int i = c.parties - 1; i >= 0; i--) {
+            for (int i = Math.min(c.parties, row.length) - 1; i >= 0; i--) {
                 used &= ~(1 << row[i]);
                 int free = freeFrom(row[i] + 1, used);
                 if (free < c.places) {
@@ -1425,13 +1451,13 @@ public final class StandTable {
         /** Of GOOD ones that are ALIKE that one counts which stands first among all. */
         int countClasses(Committee c) {
             int many = begin(c);
-            for (int i = 0; i < many && i < SEATINGS_MOST; i++) {
+            for (int i = 0; i < many && i < signers.length; i++) {
                 signers[i] = c.signersOf(row);
                 goOn(c);
             }
             begin(c);
             int classes = 0;
-            for (int i = 0; i < many && i < SEATINGS_MOST; i++) {
+            for (int i = 0; i < many && i < signers.length; i++) {
                 if (signers[i] == c.allParties() && !isLikeAnEarlierGood(c, i)) {
                     classes++;
                 }
@@ -1450,19 +1476,20 @@ public final class StandTable {
         }
 
         private boolean isGoodAhead(Committee c, int n, boolean mirrored, int number) {
-            for (int i = 0; i < c.parties; i++) {
+            for (int i = 0; i < c.parties && i < PARTIES_MOST; i++) {
                 like[i] = mirrored ? c.places - 1 - row[i] : row[i];
             }
             c.turnAll(n, like);
             int ahead = numberOf(c, like);
-            return ahead < number && signers[ahead] == c.allParties();
+            return ahead >= 0 && ahead < number && ahead < signers.length
+                    && signers[ahead] == c.allParties();
         }
 
         /** Which one of all SEATINGS a row is, from 0 on. */
         private static int numberOf(Committee c, int[] seating) {
             int number = 0;
             int used = 0;
-            for (int i = 0; i < c.parties; i++) {
+            for (int i = 0; i < c.parties && i < seating.length; i++) {
                 int below = used & (1 << seating[i]) - 1;
                 number = number * (c.places - i) + seating[i] - Integer.bitCount(below);
                 used |= 1 << seating[i];
@@ -1475,11 +1502,11 @@ public final class StandTable {
     private static final class Play {
         private static int bestLead(Committee c, int[] row, int first, int second, int turns,
                 boolean firstMoves) {
-            if (turns < 1 || turns > GAME_TURNS_MOST) {
+            int mover = firstMoves ? first : second;
+            int home = Committee.seatIn(row, mover);
+            if (turns < 1 || turns > GAME_TURNS_MOST || home == NONE) {
                 return c.worthTo(first, row) - c.worthTo(second, row);
             }
-            int mover = firstMoves ? first : second;
-            int home = row[mover];
             int found = bestLead(c, row, first, second, turns - 1, !firstMoves);
             for (int place = 0; place < c.places; place++) {
                 if (place != home) {
@@ -1494,7 +1521,7 @@ public final class StandTable {
 
         /** The PLACE of the first's best first move, NONE if it stays. */
         static int firstMove(Committee c, int[] row, int first, int second, int turns) {
-            int home = row[first];
+            int home = Committee.seatIn(row, first);
             int found = NONE;
             int most = 0;
             for (int place = 0; place < c.places; place++) {
@@ -1514,7 +1541,10 @@ public final class StandTable {
 
         private static void shift(Committee c, int[] row, int party, int place) {
             int sitter = c.sitterAt(place, row);
-            if (sitter != NONE) {
+            if (!c.isParty(party)) {
+                return;
+            }
+            if (c.isParty(sitter)) {
                 row[sitter] = row[party];
             }
             row[party] = place;
@@ -1541,18 +1571,19 @@ public final class StandTable {
 
         /** ways[set]: in how many orders one comes from what is AGREED now to that set. */
         int countOrders(Committee c) {
-            int sets = 1 << c.articles;
-            for (int set = 0; set < sets && set < ORDERS_ROW; set++) {
+            int all = (1 << c.articles) - 1;
+            for (int set = 0; set < ways.length; set++) {
                 ways[set] = set == c.agreed ? 1 : 0;
             }
-            for (int set = 0; set < sets && set < ORDERS_ROW; set++) {
-                for (int i = 0; i < c.articles && ways[set] > 0; i++) {
-                    if (!holds(set, i) && (c.leansOn[i] & ~set) == 0) {
-                        ways[set | 1 << i] += ways[set];
+            for (int set = 0; set < all && set < ways.length; set++) {
+                for (int i = 0; i < c.articles && i < c.leansOn.length; i++) {
+                    int next = set | 1 << i;
+                    if (next != set && next < ways.length && (c.leansOn[i] & ~set) == 0) {
+                        ways[next] += ways[set];
                     }
                 }
             }
-            return ways[sets - 1];
+            return all >= 0 && all < ways.length ? ways[all] : 0;
         }
 
         /** Lives the days in the COMMITTEE that is handed in. */
@@ -1566,15 +1597,15 @@ public final class StandTable {
         }
 
         int daysTogether(Committee c, int article) {
-            for (int i = 0; i <= article; i++) {
+            for (int i = 0; i <= article && i < ARTICLES_MOST; i++) {
                 ends[i] = c.isAgreed(i) ? 0 : latestEnd(c.leansOn[i], i) + c.takes[i] - c.worked[i];
             }
-            return ends[article];
+            return c.isArticle(article) ? ends[article] : 0;
         }
 
         private int latestEnd(int set, int below) {
             int latest = 0;
-            for (int i = 0; i < below; i++) {
+            for (int i = 0; i < below && i < ends.length; i++) {
                 if (holds(set, i)) {
                     latest = Math.max(latest, ends[i]);
                 }
@@ -1584,7 +1615,7 @@ public final class StandTable {
 
         static long oddsOfAll(Committee c, int set) {
             long product = 1;
-            for (int i = 0; i < c.articles; i++) {
+            for (int i = 0; i < c.articles && i < c.odds.length; i++) {
                 if (holds(set, i)) {
                     product *= c.odds[i];
                 }
@@ -1616,11 +1647,11 @@ public final class StandTable {
         boolean there;
         int told;
         int lines;
-        final int[] words = new int[LINES_MOST];
-        final int[] first = new int[LINES_MOST];
-        final int[] second = new int[LINES_MOST];
+        private final int[] words = new int[LINES_MOST];
+        private final int[] first = new int[LINES_MOST];
+        private final int[] second = new int[LINES_MOST];
         /** The line of the end for a beginning, that of the beginning for an end. */
-        final int[] mates = new int[LINES_MOST];
+        private final int[] mates = new int[LINES_MOST];
         private final int[] open = new int[NESTED_MOST];
         int depth;
 
@@ -1649,35 +1680,72 @@ public final class StandTable {
             return depth >= NESTED_MOST;
         }
 
-        /** The line of a new STEP. */
+        int wordAt(int line) {
+            return at(words, line);
+        }
+
+        int firstAt(int line) {
+            return at(first, line);
+        }
+
+        int secondAt(int line) {
+            return at(second, line);
+        }
+
+        int mateAt(int line) {
+            return at(mates, line);
+        }
+
+        private static int at(int[] row, int line) {
+            return line >= 0 && line < row.length ? row[line] : NONE;
+        }
+
+        /** The line of a new STEP, NONE if there is no room. */
         int addStep(int word) {
             told++;
             return addLine(word);
         }
 
         private int addLine(int word) {
-            int line = Math.min(lines, LINES_MOST - 1);
+            int line = lines;
+            if (line < 0 || line >= LINES_MOST) {
+                return NONE;
+            }
             words[line] = word;
             first[line] = 0;
             second[line] = 0;
-            mates[line] = 0;
-            lines = line + 1;
+            mates[line] = NONE;
+            lines++;
             return line;
         }
 
+        void setOperands(int line, int one, int two) {
+            if (line >= 0 && line < LINES_MOST) {
+                first[line] = one;
+                second[line] = two;
+            }
+        }
+
         void openAt(int line) {
-            if (depth < NESTED_MOST) {
+            if (depth >= 0 && depth < open.length) {
                 open[depth] = line;
                 depth++;
             }
         }
 
         void closeOne() {
-            if (depth > 0) {
+            if (depth > 0 && depth <= open.length) {
                 depth--;
-                int line = addLine(W_END);
-                mates[line] = open[depth];
-                mates[open[depth]] = line;
+                int begin = open[depth];
+                int end = addLine(W_END);
+                setMate(begin, end);
+                setMate(end, begin);
+            }
+        }
+
+        private void setMate(int line, int mate) {
+            if (line >= 0 && line < mates.length) {
+                mates[line] = mate;
             }
         }
     }
@@ -1711,7 +1779,7 @@ public final class StandTable {
             state = seed;
             int line = 0;
             for (int i = 0; i < FAR_MORE && line < c.steps.lines; i++) {
-                int word = c.steps.words[line];
+                int word = c.steps.wordAt(line);
                 if (word == W_END) {
                     line = behindEnd(c.steps, line);
                 } else if (done == LIVED_STEPS_MOST) {
@@ -1723,10 +1791,10 @@ public final class StandTable {
                         case W_STOP:
                             return;
                         case W_WHEN:
-                            line = isSo(c, line) ? line : c.steps.mates[line];
+                            line = isSo(c, line) ? line : c.steps.mateAt(line);
                             break;
                         case W_LOOP:
-                            left[line] = c.steps.first[line];
+                            beginLoop(c.steps, line);
                             break;
                         default:
                             missed += asNumber(!act(c, line));
@@ -1736,9 +1804,15 @@ public final class StandTable {
             }
         }
 
+        private void beginLoop(Steps steps, int line) {
+            if (line >= 0 && line < left.length) {
+                left[line] = steps.firstAt(line);
+            }
+        }
+
         private int behindEnd(Steps steps, int line) {
-            int begin = steps.mates[line];
-            if (steps.words[begin] != W_LOOP) {
+            int begin = steps.mateAt(line);
+            if (steps.wordAt(begin) != W_LOOP || begin < 0 || begin >= left.length) {
                 return line + 1;
             }
             left[begin]--;
@@ -1746,8 +1820,8 @@ public final class StandTable {
         }
 
         private boolean isSo(Committee c, int line) {
-            int operand = c.steps.second[line];
-            switch (c.steps.first[line]) {
+            int operand = c.steps.secondAt(line);
+            switch (c.steps.firstAt(line)) {
                 case W_SIGNS:
                     return c.doesSign(operand, c.seats);
                 case W_AGREED:
@@ -1763,9 +1837,9 @@ public final class StandTable {
 
         /** Whether the STEP could be. */
         private boolean act(Committee c, int line) {
-            int one = c.steps.first[line];
-            int two = c.steps.second[line];
-            switch (c.steps.words[line]) {
+            int one = c.steps.firstAt(line);
+            int two = c.steps.secondAt(line);
+            switch (c.steps.wordAt(line)) {
                 case W_SIT:
                     return c.seatOne(one, two);
                 case W_RISE:
@@ -1853,7 +1927,7 @@ public final class StandTable {
         Reader() {
             int count = 0;
             long code = 0;
-            for (int i = 0; i < KEYWORDS.length() && count < KEYWORD_COUNT; i++) {
+            for (int i = 0; i < KEYWORDS.length() && count < keywords.length; i++) {
                 char c = KEYWORDS.charAt(i);
                 if (c == ' ') {
                     keywords[count] = code;
@@ -1871,7 +1945,7 @@ public final class StandTable {
 
         /** The four bytes of a number, the highest first. */
         void add(int word) {
-            for (int shift = 24; shift >= 0 && taped < TAPE_MOST; shift -= 8) {
+            for (int shift = 24; shift >= 0 && taped >= 0 && taped < text.length; shift -= 8) {
                 text[taped] = (byte) (word >> shift);
                 taped++;
             }
@@ -1904,7 +1978,7 @@ public final class StandTable {
         }
 
         void next() {
-            while (place < length && isBlank(text[place])) {
+            while (place < length && isBlank(here())) {
                 place++;
             }
             start = place;
@@ -1913,13 +1987,18 @@ public final class StandTable {
             isName = false;
             if (place >= length) {
                 kind = THE_END;
-            } else if (isLetter(text[place])) {
+            } else if (isLetter(here())) {
                 readWord();
-            } else if (isDigit(text[place])) {
+            } else if (isDigit(here())) {
                 readNumber();
             } else {
                 readSign();
             }
+        }
+
+        /** The byte at the place; 0 is no blank, letter or digit. */
+        private int here() {
+            return place >= 0 && place < length && place < text.length ? text[place] : 0;
         }
 
         private static boolean isBlank(int c) {
@@ -1937,15 +2016,15 @@ public final class StandTable {
         private void readWord() {
             kind = WORD;
             long code = 0;
-            while (place < length && isLetter(text[place])) {
-                code = withLetter(code, text[place]);
+            while (place < length && isLetter(here())) {
+                code = withLetter(code, here());
                 place++;
             }
             if (place - start > NAME_MOST) {
                 return;
             }
             name = code;
-            for (int i = 0; i < KEYWORD_COUNT; i++) {
+            for (int i = 0; i < keywords.length; i++) {
                 if (keywords[i] == code) {
                     keyword = i;
                 }
@@ -1955,15 +2034,15 @@ public final class StandTable {
 
         private void readNumber() {
             number = 0;
-            while (place < length && isDigit(text[place])) {
-                number = number * 10 + text[place] - '0';
+            while (place < length && isDigit(here())) {
+                number = number * 10 + here() - '0';
                 place++;
             }
             kind = place - start > DIGITS_MOST ? STRANGE : NUMBER;
         }
 
         private void readSign() {
-            sign = text[place];
+            sign = here();
             place++;
             boolean known = sign == ';' || sign == '<' || sign == '>' || sign == '=';
             kind = known ? SIGN : STRANGE;
@@ -2030,6 +2109,12 @@ public final class StandTable {
             int found = c.articleNamed(name);
             blameUnlessNamed(found);
             return hasFault() ? 0 : found;
+        }
+
+        int takeArticle(Committee c) {
+            int found = articleHere(c);
+            next();
+            return found;
         }
 
         private void blameUnlessNamed(int found) {
@@ -2144,30 +2229,36 @@ public final class StandTable {
             }
             r.next();
             int wish = c.wishes;
-            c.whose[wish] = r.takeParty(c);
-            c.whom[wish] = NONE;
-            readKind(r, c, wish);
+            int party = r.takeParty(c);
+            int kind = takeKind(r);
+            c.whose[wish] = party;
+            c.kinds[wish] = kind;
+            c.whom[wish] = kind == KIND_CORNER ? NONE : takeOther(r, c, party);
             r.passKeyword(W_WORTH);
             c.worths[wish] = way * r.takeNumber(1, WORTH_MOST);
             c.wishes++;
             r.passSign(';');
         }
 
-        private static void readKind(Reader r, Committee c, int wish) {
-            if (r.keyword == W_CORNER) {
-                c.kinds[wish] = KIND_CORNER;
-                r.next();
-            } else if (r.keyword == W_BESIDE || r.keyword == W_FACING) {
-                c.kinds[wish] = r.keyword == W_BESIDE ? KIND_BESIDE : KIND_FACING;
-                r.next();
-                c.whom[wish] = r.partyHere(c);
-                if (c.whom[wish] == c.whose[wish]) {
-                    r.blame(5);
-                }
-                r.next();
-            } else {
+        private static int takeKind(Reader r) {
+            int found = r.keyword;
+            if (found != W_BESIDE && found != W_FACING && found != W_CORNER) {
                 r.blame(2);
             }
+            r.next();
+            if (found == W_BESIDE) {
+                return KIND_BESIDE;
+            }
+            return found == W_FACING ? KIND_FACING : KIND_CORNER;
+        }
+
+        private static int takeOther(Reader r, Committee c, int party) {
+            int other = r.partyHere(c);
+            if (other == party) {
+                r.blame(5);
+            }
+            r.next();
+            return other;
         }
 
         private static void readArticle(Reader r, Committee c) {
@@ -2214,11 +2305,12 @@ public final class StandTable {
                 if (r.keyword == W_END) {
                     readEnd(r, s);
                 } else if (mayBegin(r, s)) {
+                    int word = r.keyword;
                     int line = beginStep(r, s);
-                    if (s.words[line] == W_WHEN) {
+                    if (word == W_WHEN) {
                         readTest(r, c, s, line);
                     } else {
-                        readOperands(r, c, s, line);
+                        readOperands(r, c, s, line, word);
                     }
                     r.passSign(';');
                 }
@@ -2266,54 +2358,57 @@ public final class StandTable {
             return within(keyword, W_SIT, W_WHEN) || keyword == W_LOOP || keyword == W_STOP;
         }
 
-        private static void readOperands(Reader r, Committee c, Steps s, int line) {
-            switch (s.words[line]) {
+        private static void readOperands(Reader r, Committee c, Steps s, int line, int word) {
+            int one = 0;
+            int two = 0;
+            switch (word) {
                 case W_SIT:
-                    s.first[line] = r.takeParty(c);
-                    s.second[line] = r.takeNumber(0, c.places - 1);
+                    one = r.takeParty(c);
+                    two = r.takeNumber(0, c.places - 1);
                     break;
                 case W_RISE:
-                    s.first[line] = r.takeParty(c);
+                    one = r.takeParty(c);
                     break;
                 case W_SWAP:
-                    s.first[line] = r.takeParty(c);
-                    s.second[line] = r.takeParty(c);
+                    one = r.takeParty(c);
+                    two = r.takeParty(c);
                     break;
                 case W_TURN:
-                    s.first[line] = r.takeNumber(0, 9);
+                    one = r.takeNumber(0, 9);
                     break;
                 case W_DAY:
-                    s.first[line] = r.takeNumber(1, 20);
+                    one = r.takeNumber(1, 20);
                     break;
                 case W_AGREE:
                 case W_WITHDRAW:
-                    s.first[line] = r.articleHere(c);
-                    r.next();
+                    one = r.takeArticle(c);
                     break;
                 case W_LOOP:
-                    s.first[line] = r.takeNumber(1, 99);
+                    one = r.takeNumber(1, 99);
                     break;
                 default:
                     break;
             }
+            s.setOperands(line, one, two);
         }
 
         private static void readTest(Reader r, Committee c, Steps s, int line) {
-            s.first[line] = r.keyword;
-            if (r.keyword == W_SIGNS) {
+            int one = r.keyword;
+            int two = 0;
+            if (one == W_SIGNS) {
                 r.next();
-                s.second[line] = r.takeParty(c);
-            } else if (r.keyword == W_AGREED) {
+                two = r.takeParty(c);
+            } else if (one == W_AGREED) {
                 r.next();
-                s.second[line] = r.articleHere(c);
+                two = r.takeArticle(c);
+            } else if (one == W_ALL) {
                 r.next();
-            } else if (r.keyword == W_ALL) {
-                r.next();
-                s.first[line] = r.takeCompares();
-                s.second[line] = r.takeNumber(0, 999);
+                one = r.takeCompares();
+                two = r.takeNumber(0, 999);
             } else {
                 r.blame(2);
             }
+            s.setOperands(line, one, two);
         }
     }
 }
