@@ -73,6 +73,12 @@ final class Check {
         return x;
     }
 
+    /** A COMMITTEE for an object that is there. */
+    static void table(StandTable x, String committee) {
+        committee(x, committee);
+        due("'" + committee + "' status()", x.status(), 0);
+    }
+
     static void close(String test) {
         System.out.println(test + ": " + asked + " answers, " + wrong + " not as due");
         if (wrong != 0) {
