@@ -2192,12 +2192,12 @@ public final class StandTable {
                 r.blame(2);
                 return;
             }
-            if (c.parties >= PARTIES_MOST || c.parties >= c.places) {
+            int party = c.parties;
+            if (!within(party, 0, PARTIES_MOST - 1) || party >= c.places) {
                 r.blame(6);
                 return;
             }
             r.next();
-            int party = c.parties;
             c.partyNames[party] = r.takeNewName(c);
             c.leasts[party] = 0;
             c.seats[party] = NONE;
@@ -2223,12 +2223,12 @@ public final class StandTable {
         }
 
         private static void readWish(Reader r, Committee c, int way) {
-            if (c.wishes >= WISHES_MOST) {
+            int wish = c.wishes;
+            if (!within(wish, 0, WISHES_MOST - 1)) {
                 r.blame(6);
                 return;
             }
             r.next();
-            int wish = c.wishes;
             int party = r.takeParty(c);
             int kind = takeKind(r);
             c.whose[wish] = party;
@@ -2262,12 +2262,12 @@ public final class StandTable {
         }
 
         private static void readArticle(Reader r, Committee c) {
-            if (c.articles >= ARTICLES_MOST) {
+            int article = c.articles;
+            if (!within(article, 0, ARTICLES_MOST - 1)) {
                 r.blame(6);
                 return;
             }
             r.next();
-            int article = c.articles;
             c.articleNames[article] = r.takeNewName(c);
             r.passKeyword(W_TAKES);
             c.takes[article] = r.takeNumber(1, TAKES_MOST);

@@ -33,6 +33,7 @@ public final class LifeEdgeTest {
         loopAsOften();
         loopWithinALoop();
         loopBegunAnew();
+        aWhenWhereALoopWas();
         emptyLoops();
         stopStopsAll();
         whenAndLoopCountAsOneEach();
@@ -339,6 +340,18 @@ public final class LifeEdgeTest {
         StandTable y = Check.table(STAFF, "loop 3;day 1;when agreed x;stop;end;end;");
         lives(y, "a loop that is left", 6, 0, 2);
         lives(y, "a loop that is left", 4, 0, 1);
+    }
+
+    /** Where a loop of old SESSIONS was left in its midst a when stands now. */
+    private static void aWhenWhereALoopWas() {
+        StandTable x = Check.table(STAFF, "loop 9;stop;end;");
+        lives(x, "a loop that is left", 2, 0, 0);
+        Check.sessions(x, "when signs b;day 1;end;");
+        lives(x, "a when where a loop was", 2, 0, 1);
+        StandTable y = Check.table(STAFF, "loop 99;day 1;day 1;day 1;day 1;end;");
+        lives(y, "a loop that is cut off", 300, 0, 299);
+        Check.sessions(y, "when signs b;day 1;end;");
+        lives(y, "a when where a loop was cut off", 2, 0, 1);
     }
 
     private static void emptyLoops() {

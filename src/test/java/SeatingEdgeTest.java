@@ -20,6 +20,7 @@ public final class SeatingEdgeTest {
         goodWhereNobodyAsks();
         classesOfAllSeatings();
         classesTurned();
+        classesTurnedAlone();
         classesMirrored();
         classesOfNone();
         goodAtOfNoSuchParty();
@@ -180,6 +181,18 @@ public final class SeatingEdgeTest {
         Consumer<StandTable> two = past("places 6;corner 1;corner 4;party a least 1;party b;wants a corner worth 1;");
         leaves("good() of two corners", two, x -> x.good(), 10);
         leaves("classes() of two corners", two, x -> x.classes(), 3);
+    }
+
+    /** Two GOOD ones, each the other turned round by 3, and no mirror image of it. */
+    private static void classesTurnedAlone() {
+        Consumer<StandTable> row = past("places 6;corner 2;corner 3;corner 5;party a;party b least 2;party c least 1;"
+            + "party d least 1;party e least 2;shuns a corner worth 1;wants b corner worth 1;wants b beside a worth 1;"
+            + "wants c beside b worth 1;wants d beside c worth 1;shuns d corner worth 9;wants e beside d worth 1;"
+            + "wants e corner worth 1;");
+        leaves("good() turned by 3", row, x -> x.good(), 2);
+        leaves("goodAt(0) turned by 3", row, x -> x.goodAt(0), 1);
+        leaves("goodAt(4) turned by 3", row, x -> x.goodAt(4), 5);
+        leaves("classes() turned by 3", row, x -> x.classes(), 1);
     }
 
     /** a, b, c one behind the other this way round, and that way round: no turning makes one of the other. */

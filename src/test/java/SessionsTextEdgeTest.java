@@ -350,6 +350,9 @@ public final class SessionsTextEdgeTest {
         can(times("any;", 29) + "loop 1;end;", 30);
         can("loop 1;loop 1;loop 1;" + times("any;", 27) + "end;end;end;", 30);
         can(times("loop 1;end;", 20) + times("any;", 10), 30);
+        StandTable x = can(times("loop2;end;", 30), 30);
+        Check.due(x, "live of 30 loops in 300 bytes", x.live(0), 30, 0);
+        Check.due(x, "lived(4) of 30 loops in 300 bytes", x.lived(4), 0, 0);
         fault(2, times("any;", 30) + "^end;");
         fault(2, times("any;", 30) + "^x;");
         fault(2, times("any;", 30) + "^;");

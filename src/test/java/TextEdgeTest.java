@@ -89,9 +89,11 @@ public final class TextEdgeTest {
             for (int i = 0; i < 44; i++) {
                 x.feed(0x3b3b3b3b, i, 0, 0, 0);
             }
-            x.told(0);
         };
-        Twins.leaves("feed of 920", full, x -> x.feed(1, 2, 3, 4, 5), -1, 0);
+        Twins.leaves("feed of 920", full, x -> {
+            x.told(0);
+            return x.feed(1, 2, 3, 4, 5);
+        }, -1, 0);
         StandTable x = new StandTable();
         full.accept(x);
         Check.refused(x, "committee(901)", x.committee(901), 1);
@@ -416,6 +418,8 @@ public final class TextEdgeTest {
         fault(3, P + "party abcdefgh;party ^abcdefgh;");
         can(P + "party abcdefgh;party abcdefgi;", 0);
         can(P + "party abcdefgh;party bbcdefgh;", 0);
+        can(P + "party ab;party r;party bb;article b takes 1;article aa takes 1;article bbbbbbbb takes 1;"
+            + "article zz takes 1;article z takes 1;article zzzzzzzz takes 1;article az takes 1;article ba takes 1;", 0);
         fault(3, P + "party ab;wants ^a corner worth 1;");
         fault(3, P + "party ab;wants ^abc corner worth 1;");
         fault(3, P + "party ab;wants ^b corner worth 1;");

@@ -271,8 +271,13 @@ public final class ToldEdgeTest {
         leaves("beside, both stand", past("places 4;party a;party b;"), x -> x.beside(0, 1), 0);
         leaves("facing, both stand", past("places 4;party a;party b;"), x -> x.facing(0, 1), 0);
         // one that stands is not at -1, which is next to 0, nor two ahead of 1
-        leaves("beside PLACE 0, one stands", past("places 4;party a at 0;party b;"), x -> x.beside(0, 1), 0);
-        leaves("facing PLACE 1, one stands", past("places 4;party a at 1;party b;"), x -> x.facing(0, 1), 0);
+        for (int place = 0; place < 4; place++) {
+            Consumer<StandTable> one = past("places 4;party a at " + place + ";party b;");
+            leaves("beside PLACE " + place + ", one stands", one, x -> x.beside(0, 1), 0);
+            leaves("beside PLACE " + place + ", the first stands", one, x -> x.beside(1, 0), 0);
+            leaves("facing PLACE " + place + ", one stands", one, x -> x.facing(0, 1), 0);
+            leaves("facing PLACE " + place + ", the first stands", one, x -> x.facing(1, 0), 0);
+        }
     }
 
     /** "The last one is next to the first". */
@@ -330,9 +335,12 @@ public final class ToldEdgeTest {
     }
 
     private static void worthBesideWhoStands() {
-        Consumer<StandTable> past = past("places 4;party a at 0;party b;wants a beside b worth 9;"
-            + "shuns a facing b worth 3;");
-        leaves("worth(0), the other stands", past, x -> x.worth(0), 0);
+        for (int place = 0; place < 4; place++) {
+            Consumer<StandTable> past = past("places 4;party a at " + place + ";party b;wants a beside b worth 9;"
+                + "shuns a facing b worth 3;wants b beside a worth 9;shuns b facing a worth 3;");
+            leaves("worth(0), the other stands", past, x -> x.worth(0), 0);
+            leaves("worth(1), stands", past, x -> x.worth(1), 0);
+        }
     }
 
     private static void worthIsWantedLessShunned() {

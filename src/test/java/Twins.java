@@ -57,6 +57,7 @@ final class Twins {
             int status) {
         for (Last last : Last.values()) {
             StandTable asked = after(past);
+            ahead(asked, status);
             Check.due(asked, what, call.applyAsLong(asked), due, status);
             same(what, State.of(asked, last, true), State.of(after(past), last, true));
         }
@@ -66,6 +67,7 @@ final class Twins {
     static void faulty(String what, Consumer<StandTable> past, ToLongFunction<StandTable> call, int kind,
             int place) {
         StandTable asked = after(past);
+        ahead(asked, 9);
         Check.refused(asked, what, call.applyAsLong(asked), 9);
         Check.due(what + ": fault(0)", asked.fault(0), kind);
         Check.due(what + ": fault(1)", asked.fault(1), place);
@@ -78,6 +80,7 @@ final class Twins {
             Consumer<StandTable> otherWay) {
         for (Last last : Last.values()) {
             StandTable asked = after(past);
+            ahead(asked, 0);
             Check.due(asked, what, call.applyAsLong(asked), due, 0);
             StandTable other = after(past);
             otherWay.accept(other);
@@ -89,6 +92,11 @@ final class Twins {
         StandTable x = new StandTable();
         past.accept(x);
         return x;
+    }
+
+    /** Another STATUS than the call is to have, so that it must tell its own. */
+    private static void ahead(StandTable x, int status) {
+        x.told(status == 0 ? -1 : 0);
     }
 
     private static void same(String what, List<String> asked, List<String> left) {
