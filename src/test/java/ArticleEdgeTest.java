@@ -291,6 +291,7 @@ public final class ArticleEdgeTest {
     private static void luck(String what, Consumer<StandTable> past, int article, long top, long bottom) {
         StandTable x = new StandTable();
         past.accept(x);
+        x.told(-1);
         Check.due(x, "luck(" + article + ") " + what, x.luck(article), true, 0);
         Check.due("top() " + what, x.top(), top);
         Check.due("bottom() " + what, x.bottom(), bottom);

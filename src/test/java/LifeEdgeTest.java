@@ -544,6 +544,7 @@ public final class LifeEdgeTest {
     private static void mean(String what, Consumer<StandTable> past, int seed, int many, long top, long bottom) {
         StandTable x = new StandTable();
         past.accept(x);
+        x.told(-1);
         Check.due(x, "mean(" + seed + "," + many + ") " + what, x.mean(seed, many), true, 0);
         Check.due("top() " + what, x.top(), top);
         Check.due("bottom() " + what, x.bottom(), bottom);

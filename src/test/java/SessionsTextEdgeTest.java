@@ -353,6 +353,9 @@ public final class SessionsTextEdgeTest {
         StandTable x = can(times("loop2;end;", 30), 30);
         Check.due(x, "live of 30 loops in 300 bytes", x.live(0), 30, 0);
         Check.due(x, "lived(4) of 30 loops in 300 bytes", x.lived(4), 0, 0);
+        StandTable y = can(times("loop2;loop2;end;end;", 15), 30);
+        Check.due(y, "live of 15 loops within 15", y.live(0), 45, 0);
+        Check.due(y, "lived(4) of 15 loops within 15", y.lived(4), 0, 0);
         fault(2, times("any;", 30) + "^end;");
         fault(2, times("any;", 30) + "^x;");
         fault(2, times("any;", 30) + "^;");
