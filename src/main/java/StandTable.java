@@ -1762,11 +1762,13 @@ public final class StandTable {
         private final int[] left = new int[LINES_MOST];
 
         void tellTo(int[] figures) {
-            figures[0] = missed;
-            figures[1] = days;
-            figures[2] = agreements;
-            figures[3] = fallen;
-            figures[4] = asNumber(cutOff);
+            if (figures.length == LIVED_FIGURES) {
+                figures[0] = missed;
+                figures[1] = days;
+                figures[2] = agreements;
+                figures[3] = fallen;
+                figures[4] = asNumber(cutOff);
+            }
         }
 
         void run(Committee c, int seed) {
