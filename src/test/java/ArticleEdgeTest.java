@@ -224,6 +224,10 @@ public final class ArticleEdgeTest {
         leaves("chain(3), c AGREED", agreed(DIAMOND, 0, 2), x -> x.chain(3), 5);
         leaves("chain(3), b AGREED", agreed(DIAMOND, 0, 1), x -> x.chain(3), 7);
         leaves("chain(3), both AGREED", agreed(DIAMOND, 0, 1, 2), x -> x.chain(3), 2);
+        leaves("chain(2), the latter takes longer", past("article a takes 10;article b takes 20;article c takes 1 a b;"),
+            x -> x.chain(2), 21);
+        leaves("chain(2), the former takes longer", past("article a takes 20;article b takes 10;article c takes 1 b a;"),
+            x -> x.chain(2), 21);
     }
 
     private static void chainAndSoonestOfTheMost() {

@@ -294,6 +294,18 @@ public final class LifeEdgeTest {
         when("all = 0", x -> { }, true);
         when("all < 999", x -> { }, true);
         when("all > 999", x -> { }, false);
+        for (int worth = -2; worth <= 9; worth++) {
+            int is = worth;
+            Consumer<StandTable> how = x -> {
+                x.sit(0, is == 0 ? 0 : 1);
+                x.value(0, is == 0 ? 1 : is);
+            };
+            for (int n = 0; n <= 10; n++) {
+                when("all < " + n, how, worth < n);
+                when("all > " + n, how, worth > n);
+                when("all = " + n, how, worth == n);
+            }
+        }
     }
 
     /** "It may be below 0". */

@@ -268,6 +268,15 @@ public final class SeatingEdgeTest {
         leaves("best() of the last", last, x -> x.best(), 3);
         leaves("bestAt(0) of the last", last, x -> x.bestAt(0), 3);
         leaves("bestAt(1) of the last", last, x -> x.bestAt(1), 1);
+        Consumer<StandTable> alike = past("places 6;party a;party b;party c;");
+        Consumer<StandTable> shy = past("places 4;corner 1;corner 2;corner 3;party a;shuns a corner worth 5;");
+        leaves("best() without WISHES", alike, x -> x.best(), 0);
+        leaves("best(), 0 ahead of what is below", shy, x -> x.best(), 0);
+        leaves("bestAt(0), 0 ahead of what is below", shy, x -> x.bestAt(0), 0);
+        for (int p = 0; p < 3; p++) {
+            int party = p;
+            leaves("bestAt(" + p + ") without WISHES", alike, x -> x.bestAt(party), p);
+        }
     }
 
     private static void bestAtOfNoSuchParty() {
@@ -460,6 +469,9 @@ public final class SeatingEdgeTest {
         Consumer<StandTable> later = past("places 6;corner 0;corner 1;party a at 2;party b at 3;party c at 0;party d at 1;"
             + "wants a corner worth 2;wants b corner worth 2;");
         leaves("bestSwap(), 2 of 2, 3, 12, 13", later, x -> x.bestSwap(), 2);
+        Consumer<StandTable> most = past("places 6;corner 0;party a at 2;party b at 3;party c at 0;"
+            + "wants a corner worth 1;wants b corner worth 5;");
+        leaves("bestSwap(), 12 by more than 2", most, x -> x.bestSwap(), 12);
     }
 
     /** "As 10 times the lesser and the other". */

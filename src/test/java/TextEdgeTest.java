@@ -19,6 +19,7 @@ public final class TextEdgeTest {
         theTapeIsEmptyThen();
         theOldCommitteeStays();
         aNewCommitteeTakesItsPlace();
+        nothingIsLeftOfALargerOne();
         howManyWishes();
         faultAheadOfAny();
         faultOfOthers();
@@ -231,6 +232,41 @@ public final class TextEdgeTest {
         Check.due("the same text: worked at y", x.article(1, 3), 0);
         Check.due("the same text: least(0)", x.least(0), 2);
         Check.due("the same text: wish(0,3)", x.wish(0, 3), 3);
+    }
+
+    /** "In place of that ahead": of one with more of all nothing is told, however often it was read. */
+    private static void nothingIsLeftOfALargerOne() {
+        String large = "places 6;corner 0;corner 5;party a least 50 at 0;party b least 50 at 1;party c least 50 at 2;"
+            + "party d least 50 at 3;party e least 50 at 4;" + times("wants a beside b worth 9;", 20)
+            + "article q takes 1 odds 0;article r takes 1 odds 1 q;article s takes 9 odds 2 q r;article t takes 9 q r s;";
+        StandTable x = new StandTable();
+        for (int i = 0; i < 3; i++) {
+            Check.due(x, "a larger one", Check.committee(x, large), 20, 0);
+            x.agree(0);
+            x.agree(1);
+        }
+        Check.due(x, "a lesser one", Check.committee(x, "places 3;party a;party b;article q takes 2;"), 0, 0);
+        Check.due(x, "fish()", x.fish(), 0, 0);
+        Check.due(x, "leastFish()", x.leastFish(), 0, 0);
+        Check.due(x, "good()", x.good(), 6, 0);
+        Check.due(x, "classes()", x.classes(), 1, 0);
+        Check.due(x, "best()", x.best(), 0, 0);
+        Check.due(x, "mostSign()", x.mostSign(), 2, 0);
+        Check.refused(x, "quarrel()", x.quarrel(), 6);
+        Check.due(x, "turn(1)", x.turn(1), 0, 0);
+        Check.refused(x, "bestSwap()", x.bestSwap(), 6);
+        Check.due(x, "leans(0)", x.leans(0), 0, 0);
+        Check.due(x, "falls(0)", x.falls(0), 1, 0);
+        Check.due(x, "orders()", x.orders(), 1, 0);
+        Check.due(x, "agreedIn(1)", x.agreedIn(1), 0, 0);
+        Check.due(x, "agreedIn(300)", x.agreedIn(300), 1, 0);
+        Check.due(x, "soonest(0)", x.soonest(0), 2, 0);
+        Check.due(x, "chain(0)", x.chain(0), 2, 0);
+        Check.due(x, "luck(0)", x.luck(0), true, 0);
+        Check.due("top()", x.top(), 1);
+        Check.due(x, "seatBest()", x.seatBest(), 0, 0);
+        Check.due(x, "told(6)", x.told(6), 3, 0);
+        Check.due(x, "allWorth()", x.allWorth(), 0, 0);
     }
 
     private static void howManyWishes() {

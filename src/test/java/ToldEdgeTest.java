@@ -350,6 +350,8 @@ public final class ToldEdgeTest {
         leaves("worth(0)", past, x -> x.worth(0), 6);
         leaves("worth(1)", past, x -> x.worth(1), 0);
         leaves("worth(2)", past, x -> x.worth(2), -2);
+        leaves("worth(0), the most of all", past("places 3;corner 0;party a at 0;" + "wants a corner worth 9;".repeat(20)),
+            x -> x.worth(0), 180);
         leaves("allWorth()", past, x -> x.allWorth(), 4);
     }
 
@@ -412,6 +414,8 @@ public final class ToldEdgeTest {
         leaves("dearest(1)", past(text), x -> x.dearest(1), 1);
         leaves("dearest(0), the number 0", past("places 3;corner 0;party a at 0;wants a corner worth 1;"),
             x -> x.dearest(0), 0);
+        leaves("dearest(0), the latter", past("places 3;corner 0;party a at 0;wants a corner worth 8;"
+            + "wants a corner worth 9;"), x -> x.dearest(0), 1);
     }
 
     private static void dearestAsksNotWhatIsShunned() {
