@@ -331,7 +331,8 @@ public final class FuzzTest {
             s.append("corner");
         } else {
             String whom = party();
-            for (int i = 0; (clean || i < 5) && parties > 1 && whom.equals(whose); i++) {
+            // two PARTIES may have drawn one NAME, which is a FAULT
+            for (int i = 0; i < (clean ? 50 : 5) && parties > 1 && whom.equals(whose); i++) {
                 whom = party();
             }
             s.append(kind == 0 ? "beside " : "facing ").append(whom);
